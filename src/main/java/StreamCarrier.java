@@ -78,9 +78,9 @@ public final class StreamCarrier {
             row[i] = (byte) ((row[i] & CAME) | what);
         }
 
-        /** How far a run of count bytes from first on may go in the row. */
+        /** Behind the last of count bytes from first on, as far as the row has them. */
         int stop(int first, int count) {
-            return first < 0 ? 0 : Math.min(BYTES_AT_MOST, first + count);
+            return first < 0 ? first : Math.min(BYTES_AT_MOST, first + count);
         }
 
         int firstAgain() {

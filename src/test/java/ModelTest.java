@@ -112,7 +112,8 @@ public final class ModelTest {
             case "read": return new int[] {wild(below(8)), wild(between(1, 150))};
             case "move": return new int[0];
             case "send": return new int[] {wild(below(2))};
-            case "tick": return new int[] {wild(below(5) == 0 ? between(1, 60) : below(40) == 0 ? 1000 : between(1, 4))};
+            case "tick":
+                return new int[] {wild(below(5) == 0 ? between(1, 60) : below(40) == 0 ? 1000 : between(1, 4))};
             default: return new int[] {place(m, reorder)};
         }
     }
