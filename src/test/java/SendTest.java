@@ -111,11 +111,19 @@ public final class SendTest {
             "part 1 0 0 1 = 1; part 1 1 0 1 = 5; part 1 2 0 1 = 7; part 1 3 0 1 = 1; part 1 3 0 3 = 8",
             "part 1 3 1 1 = 7; part 1 3 1 2 = 42; part 1 3 1 3 = 18");
         Rows.run("8 one part each",
-            "write 0 1 = 1; send 0 = 0; write 0 1 = 2; send 0 = 1; write 0 1 = 3; send 0 = 2; write 2 1 = 1",
-            "send 0 = 3; write 2 1 = 2; send 0 = 4; write 2 1 = 3; send 0 = 5; come 1 = 1; come 4 = 1; send 1 = 0",
+            "write 0 1 = 1; send 0 = 0; write 0 1 = 2; send 0 = 1; write 0 1 = 3; send 0 = 2; write 6 1 = 1",
+            "send 0 = 3; write 6 1 = 2; send 0 = 4; write 6 1 = 3; send 0 = 5; come 1 = 1; come 4 = 1; send 1 = 0",
             "come 4 = 1; packet 0 0 6 = 1; packet 0 2 6 = 1; packet 0 3 6 = 0; stream 0 5 = 2; send 0 = 6",
             "packet 0 6 3 = 1; part 0 6 0 2 = 0; part 0 6 0 3 = 1; stream 0 5 = 1; send 0 = 7; part 0 7 0 2 = 2",
             "part 0 7 0 3 = 1; stream 0 5 = 0; send 0 = -5");
+        Rows.run("8 up to the last byte there can be",
+            "shape 1000 1000 4000 = 1; write 0 1000 = 1000; end 0 = 1; send 0 x2 = 0 1; part 0 0 0 3 = 982",
+            "part 0 1 0 3 = 10018; state 0 999 = 1; write 2 1 = 1; send 0 = 2; write 2 1 = 2; send 0 = 3; write 2 1 = 3",
+            "send 0 = 4; twice 0 = 6; twice 1 = 7; come 4 = 1; send 1 = 0; come 6 = 1; packet 0 0 6 = 1; packet 0 1 6 = 1",
+            "stream 0 5 = 1000; state 0 999 = 2; send 0 = 5; part 0 5 0 2 = 0; part 0 5 0 3 = 10982; send 0 = 6",
+            "part 0 6 0 2 = 982; part 0 6 0 3 = 18; stream 0 5 = 0; come 0 x6 = 1 1 1 1 0 0; stream 0 9 = 1000",
+            "stream 0 8 = 1000; read 0 1000 = 1000; stream 0 12 = 1; come 0 x2 = 1; send 1 = 1; part 1 1 1 2 = 2000",
+            "come 0 = 1; stream 0 6 = 2000; stream 0 4 = 1000; stream 0 13 = 1000; state 0 999 = 7; state 0 0 = 7");
         Rows.run("8 a PACKET without BYTES leaves the turn",
             "shape 60 1000 4000 = 1; write 2 42 = 42; send 0 = 0; cut 0 = 1; send 0 = 1; write 2 42 = 84",
             "write 4 42 = 42; send 0 = 2; part 0 2 0 1 = 4; send 0 = 3; part 0 3 0 1 = 2");
