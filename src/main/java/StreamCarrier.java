@@ -911,9 +911,9 @@ public final class StreamCarrier {
                     break;
                 case BYTES:
                     s.markCame(b, c % WITH_END);
-                    // END may go with bytes sent AGAIN that are not the last: b and c do not tell the length then.
+                    // What its own part says holds, also where END goes with bytes sent AGAIN that are not the last.
                     if (c >= WITH_END) {
-                        s.length = s.written;
+                        s.length = b + c % WITH_END;
                     }
                     break;
                 case CUT_OFF:

@@ -72,7 +72,7 @@ final class Model {
     final int[] probes = new int[2], allKnown = new int[2], allTold = new int[2], lastStream = {6, 7};
     final boolean[] probeOwed = new boolean[2], toldOwed = new boolean[2], allOwed = new boolean[2];
     final boolean[] askOwed = new boolean[2];
-    final Integer[] answerOwed = new Integer[2];
+    final Integer[] answerOwed = new Integer[2], said = new Integer[8];
 
     Model() {
         setBounds();
@@ -179,7 +179,7 @@ final class Model {
     private boolean partCame(int stream, int kind) {
         for (Pack p : sentOf(stream)) {
             for (Part q : p.parts) {
-                if (p.came && q.a == stream && (kind == 4 ? q.hasEnd() : q.kind == kind)) {
+                if (p.came && q.a == stream && q.kind == kind) {
                     return true;
                 }
             }
@@ -465,6 +465,8 @@ final class Model {
             known[q.a] = Math.max(known[q.a], q.b);
         } else if (q.kind == 3) {
             allKnown[to] = Math.max(allKnown[to], q.b);
+        } else if (q.hasEnd()) {
+            said[q.a] = q.b + q.c - 10000;
         } else if (q.kind == 6) {
             answerOwed[to] = q.b;
         } else if (q.kind == 7 && to == 1 && q.b == path) {
@@ -606,7 +608,7 @@ final class Model {
             case 10: return read[s];
             case 11: return toldLast[s];
             case 12: return one(boundOwed[s]);
-            case 13: return partCame(s, 4) ? written[s] : -6;
+            case 13: return orNone(said[s]);
             case 14: return one(partCame(s, 5));
             default: return -2;
         }

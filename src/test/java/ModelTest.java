@@ -147,8 +147,11 @@ public final class ModelTest {
         }
         int i = below(1 + m.net.size());
         same(run, "net " + i, x.net(i, 1), m.net(i, 1));
-        for (int s = 0; s < 8 && streamsToo; s++) {
-            lookAtStream(run, x, m, s);
+        for (int s = 0; s < 8; s++) {
+            same(run, "stream " + s + " 13", x.stream(s, 13), m.stream(s, 13));
+            if (streamsToo) {
+                lookAtStream(run, x, m, s);
+            }
         }
     }
 

@@ -1,4 +1,6 @@
-/** Promises 8 to 11: send, come, drop, twice, and what goes into a PACKET. */
+import java.util.Arrays;
+
+/** Promises 8 to 11: send, come, drop, twice, what goes into a PACKET, and what END says of the length (13). */
 public final class SendTest {
     private SendTest() {
     }
@@ -11,6 +13,7 @@ public final class SendTest {
         turns();
         bounds();
         ends();
+        endSaid();
         openAndShut();
         comes();
         dropsAndDoubles();
@@ -123,7 +126,7 @@ public final class SendTest {
             "stream 0 5 = 1000; state 0 999 = 2; send 0 = 5; part 0 5 0 2 = 0; part 0 5 0 3 = 10982; send 0 = 6",
             "part 0 6 0 2 = 982; part 0 6 0 3 = 18; stream 0 5 = 0; come 0 x6 = 1 1 1 1 0 0; stream 0 9 = 1000",
             "stream 0 8 = 1000; read 0 1000 = 1000; stream 0 12 = 1; come 0 x2 = 1; send 1 = 1; part 1 1 1 2 = 2000",
-            "come 0 = 1; stream 0 6 = 2000; stream 0 4 = 1000; stream 0 13 = 1000; state 0 999 = 7; state 0 0 = 7");
+            "come 0 = 1; stream 0 6 = 2000; stream 0 4 = 1000; stream 0 13 = 982; state 0 999 = 7; state 0 0 = 7");
         Rows.run("8 a PACKET without BYTES leaves the turn",
             "shape 60 1000 4000 = 1; write 2 42 = 42; send 0 = 0; cut 0 = 1; send 0 = 1; write 2 42 = 84",
             "write 4 42 = 42; send 0 = 2; part 0 2 0 1 = 4; send 0 = 3; part 0 3 0 1 = 2");
@@ -153,14 +156,34 @@ public final class SendTest {
             "shape 200 50 4000 = 1; write 0 60 = 60; end 0 = 1; send 0 = 0; part 0 0 0 3 = 50; send 0 = -5",
             "come 0 = 1; read 0 50 = 50; send 1 = 0; come 0 = 1; send 0 = 1; part 0 1 0 0 = 1; part 0 1 1 2 = 50",
             "part 0 1 1 3 = 10010");
-        Rows.run("8 END with bytes sent AGAIN tells the whole length",
+        Rows.run("13 END with bytes sent AGAIN says how far these go",
             "shape 60 1000 4000 = 1; write 0 100 = 100; end 0 = 1; send 0 x3 = 0 1 2; part 0 2 0 3 = 10016",
             "write 2 1 = 1; send 0 = 3; write 2 1 = 2; send 0 = 4; write 2 1 = 3; send 0 = 5; drop 0 = 5",
             "come 0 = 1; drop 0 = 3; drop 0 = 2; drop 0 = 1; come 0 = 1; send 1 = 0; come 0 = 1; packet 0 0 6 = 1",
             "packet 0 2 6 = 1; packet 0 3 6 = 0; stream 0 5 = 58; side 0 1 = 38; side 0 2 = 339; send 0 = 6",
             "part 0 6 0 2 = 0; part 0 6 0 3 = 10042; send 0 = 7; part 0 7 0 2 = 84; part 0 7 0 3 = 16; send 0 = -5",
-            "stream 0 13 = -6; come 0 = 1; stream 0 13 = 100; stream 0 9 = 84; come 0 = 1; stream 0 9 = 100",
-            "stream 0 13 = 100; send 1 = 1; come 0 = 1; stream 0 7 = 1; stream 0 4 = 100; stream 0 5 = 0");
+            "stream 0 13 = -6; come 0 = 1; stream 0 13 = 42; stream 0 9 = 84; come 0 = 1; stream 0 9 = 100",
+            "stream 0 13 = 42; stream 0 0 = 100; send 1 = 1; come 0 = 1; stream 0 7 = 1; stream 0 4 = 100; stream 0 5 = 0");
+    }
+
+    private static void endSaid() {
+        String[] endTwice = {
+            "shape 60 1000 4000 = 1; write 0 100 = 100; end 0 = 1; send 0 x3 = 0 1 2; part 0 2 0 3 = 10016",
+            "write 2 1 = 1; send 0 = 3; write 2 1 = 2; send 0 = 4; write 2 1 = 3; send 0 = 5; drop 0 = 5; come 0 = 1",
+            "drop 1 = 3; drop 1 = 2; come 1 = 1; send 1 = 0; come 1 = 1; packet 0 2 6 = 1; send 0 = 6",
+            "part 0 6 0 2 = 0; part 0 6 0 3 = 10042; net 0 1 = 2; net 1 1 = 6; stream 0 13 = -6"};
+        Rows.run("13 the END that came last says it: the first one late", with(endTwice,
+            "twice 1 = 3; come 1 = 1; stream 0 13 = 42; come 0 = 1; stream 0 13 = 100; stream 0 9 = 100",
+            "come 0 = 0; stream 0 13 = 100"));
+        Rows.run("13 the END that came last says it: in order", with(endTwice,
+            "twice 0 = 3; come 0 = 1; stream 0 13 = 100; come 0 = 1; stream 0 13 = 42; stream 0 9 = 100",
+            "come 0 = 0; stream 0 13 = 42"));
+    }
+
+    private static String[] with(String[] rows, String... more) {
+        String[] all = Arrays.copyOf(rows, rows.length + more.length);
+        System.arraycopy(more, 0, all, rows.length, more.length);
+        return all;
     }
 
     private static void openAndShut() {
