@@ -1,4 +1,5 @@
-import java.util.Arrays;
+import java.util.ArrayList;
+import java.util.List;
 
 /** Any call with any arguments in any state: none throws, all end, and what is refused changes nothing. */
 public final class AnyCallTest {
@@ -28,11 +29,12 @@ public final class AnyCallTest {
     }
 
     public static void main(String[] args) {
+        Watch.start();
         int calls = 0;
         for (int run = 0; run < 150; run++) {
             calls += longRun(new StreamCarrier(), 3000, run % 3);
         }
-        for (int run = 0; run < 30; run++) {
+        for (int run = 0; run < 60; run++) {
             refusedRun();
         }
         fullOfEverything();
@@ -46,60 +48,41 @@ public final class AnyCallTest {
             if (kind == 1 && below(2) == 0) {
                 what = below(2) == 0 ? "send" : "come";
             }
-            int[] n = arguments(below(2) == 0 ? 2 : 60);
+            Call one = new Call(what, arguments(below(2) == 0 ? 2 : 60), 0);
             try {
-                Rows.call(x, what, n);
+                one.on(x);
             } catch (RuntimeException wrong) {
-                System.out.println(what + " " + Arrays.toString(n) + " threw " + wrong);
+                System.out.println(one + " threw " + wrong);
                 System.exit(1);
             }
         }
         return calls;
     }
 
+    /** One object gets every call, another only those that were not refused: these answer the same. */
     private static void refusedRun() {
         StreamCarrier x = new StreamCarrier();
-        for (int call = 0; call < 500; call++) {
+        StreamCarrier y = new StreamCarrier();
+        List<Call> all = new ArrayList<>();
+        List<Call> accepted = new ArrayList<>();
+        for (int call = 0; call < Rows.CALLS_AT_MOST - 60; call++) {
             String what = CHANGES[below(CHANGES.length)];
-            int[] n = arguments(8);
-            boolean looks = call % 4 == 0;
-            String before = looks ? all(x) : "";
-            int answer = Rows.call(x, what, n);
-            if (looks && answer < 0 && !before.equals(all(x))) {
-                System.out.println(what + " " + Arrays.toString(n) + " answered " + answer + " and changed something");
-                System.exit(1);
-            }
-        }
-    }
-
-    /** All that is told of an object, as a text. */
-    private static String all(StreamCarrier x) {
-        StringBuilder text = new StringBuilder();
-        for (int what = 0; what < 8; what++) {
-            text.append(x.told(what)).append(' ');
-        }
-        for (int s = 0; s < 8; s++) {
-            for (int what = 0; what < 15; what++) {
-                text.append(x.stream(s, what)).append(' ');
-            }
-            for (int i = 0; i < x.stream(s, 3); i++) {
-                text.append(x.state(s, i));
-            }
-        }
-        for (int side = 0; side < 2; side++) {
-            for (int what = 0; what < 17; what++) {
-                text.append(x.side(side, what)).append(' ');
-            }
-            for (int n = 0; n < x.side(side, 0); n++) {
-                for (int what = 0; what < 8; what++) {
-                    text.append(x.packet(side, n, what)).append(' ');
+            Call one = new Call(what, arguments(what.equals("tick") ? 3 : 8), 0);
+            int answer = one.on(x);
+            all.add(one);
+            if (answer >= 0) {
+                accepted.add(one);
+                if (one.on(y) != answer) {
+                    System.out.println(one + " answered " + answer + ", and something else without the refused calls");
+                    System.exit(1);
                 }
             }
         }
-        for (int i = 0; i < x.told(1); i++) {
-            text.append(x.net(i, 0)).append(' ').append(x.net(i, 1)).append(' ');
+        String difference = Look.difference(Look.at(all), Look.at(accepted));
+        if (!difference.equals("nothing")) {
+            System.out.println("refused calls changed something: " + difference);
+            System.exit(1);
         }
-        return text.toString();
     }
 
     private static void fullOfEverything() {

@@ -15,8 +15,9 @@ public final class LanguageTest {
         "twice/1", "write/2");
     private static final List<String> CONSTANTS = List.of("FULL=-4", "NO=-5", "NONE=-6", "OUTSIDE=-2", "STATE=-3",
         "UNKNOWN=-1");
-    private static final String[] LEFT_OUT = {"throw", "throws", "try", "catch", "synchronized", "assert", "import",
-        "package", "native", "transient", "volatile", "System", "Thread", "Object", "var", "record", "strictfp"};
+    private static final String[] LEFT_OUT = {"throw", "throws", "try", "catch", "synchronized", "assert",
+        "package", "protected", "native", "transient", "volatile", "Thread", "Object", "hashCode"};
+    private static final List<String> IMPORTS = List.of("ArrayList", "Arrays", "Iterator", "List");
 
     private static int wrong = 0;
 
@@ -91,7 +92,13 @@ public final class LanguageTest {
             check(!code.matches("(?s).*\\b" + word + "\\b.*"), "the source has " + word);
         }
         check(!code.contains("->") && !code.contains("::"), "the source has a lambda or a method reference");
-        check(!code.contains("\""), "the source has a text");
+        for (String one : code.split("\n")) {
+            if (one.startsWith("import ")) {
+                check(IMPORTS.stream().anyMatch(f -> one.equals("import java.util." + f + ";")),
+            "not in the library: " + one);
+            }
+            check(!one.contains("System.") || one.contains("System.arraycopy("), "not in the library: " + one.trim());
+        }
         int start = 0;
         String[] lines = text.split("\n");
         for (int i = 0; i < lines.length; i++) {

@@ -1,9 +1,15 @@
-/** Long runs of calls, made by a fixed row of numbers, on the program and on Model side by side. */
+import java.util.ArrayList;
+import java.util.Arrays;
+import java.util.List;
+
+/**
+ * Runs of 512 calls, made by a fixed row of numbers, on the program and on Model side by side: each answer is the
+ * same, and now and then, and at the end, all that is told.
+ */
 public final class ModelTest {
-    private static final int CALLS = 512;
     private static final String[] NAMES = {"shape", "write", "end", "cut", "read", "move", "send", "come", "drop",
-        "twice", "tick"};
-    /** How often each of NAMES is called in a run of a kind. */
+        "twice", "tick", "told", "stream", "state", "side", "packet", "part", "net"};
+    /** How often each of NAMES up to tick is called in a run of a kind; the rest only tell. */
     private static final int[][] KINDS = {
         {1, 60, 8, 2, 60, 1, 160, 140, 10, 8, 20},
         {0, 40, 6, 2, 30, 0, 200, 120, 40, 5, 25},
@@ -37,16 +43,8 @@ public final class ModelTest {
         return below(40) == 0 ? odd[below(odd.length)] : n;
     }
 
-    private static void same(String run, String call, int program, int model) {
-        if (program != model) {
-            wrong++;
-            if (wrong <= 20) {
-                System.out.println(run + ": " + call + " answered " + program + ", the model " + model);
-            }
-        }
-    }
-
     public static void main(String[] args) {
+        Watch.start();
         int perKind = args.length > 0 ? Integer.parseInt(args[0]) : RUNS_OF_KIND;
         int runs = 0;
         for (int kind = 0; kind < KINDS.length; kind++) {
@@ -56,37 +54,65 @@ public final class ModelTest {
                 runs++;
             }
         }
-        System.out.println(runs + " runs against the model, " + wrong + " answers not the same");
+        System.out.println(runs + " runs against the model, " + wrong + " faults");
         if (wrong != 0) {
             System.exit(1);
         }
     }
 
+    private static void fault(String text) {
+        wrong++;
+        System.out.println(text);
+    }
+
     private static void oneRun(String run, int[] often) {
         StreamCarrier x = new StreamCarrier();
         Model m = new Model();
+        List<Call> row = new ArrayList<>();
+        int calls = 0;
         if (below(3) > 0) {
             int[] rooms = {60, 61, 75, 100, 200, 1000};
             int r = rooms[below(rooms.length)], w = between(50, 400), v = between(50, 1200);
-            same(run, "shape", x.shape(r, w, v), m.shape(r, w, v));
+            calls += same(run, x, m, row, new Call("shape", new int[] {r, w, v}, 0));
         }
         int reorder = below(3);
-        for (int call = 1; call < CALLS && wrong == 0; call++) {
-            int what = pick(often);
-            int[] n = arguments(what, m, reorder);
-            String told = NAMES[what] + java.util.Arrays.toString(n) + " (call " + call + ")";
-            same(run, told, Rows.call(x, NAMES[what], n), callModel(m, NAMES[what], n));
-            lookAround(run + " behind " + told, x, m, call % 32 == 0);
+        int tells = below(4) == 0 ? 0 : 30;
+        int look = below(400);
+        while (calls < Rows.CALLS_AT_MOST && wrong == 0) {
+            String what = below(100) < tells ? NAMES[between(often.length, NAMES.length - 1)] : NAMES[pick(often)];
+            calls += same(run, x, m, row, new Call(what, arguments(what, m, reorder), 0));
+            if (calls == look) {
+                sameLook(run, row, m);
+            }
         }
-        lookEverywhere(run + " at its end", x, m);
+        sameLook(run, row, m);
+    }
+
+    /** Answers 1: it was one call. */
+    private static int same(String run, StreamCarrier x, Model m, List<Call> row, Call call) {
+        if (call.changes()) {
+            row.add(call);
+        }
+        int program = call.on(x);
+        int model = call.on(m);
+        if (program != model) {
+            fault(run + ": " + call + " answered " + program + ", the model " + model);
+        }
+        return 1;
+    }
+
+    private static void sameLook(String run, List<Call> row, Model m) {
+        String program = Look.at(row);
+        if (wrong == 0 && !program.isEmpty()) {
+            String model = Look.at(m);
+            if (!program.equals(model)) {
+                fault(run + ", behind " + row.size() + " calls: " + Look.difference(program, model));
+            }
+        }
     }
 
     private static int pick(int[] often) {
-        int sum = 0;
-        for (int n : often) {
-            sum += n;
-        }
-        int left = below(sum);
+        int left = below(Arrays.stream(often).sum());
         int what = 0;
         while (left >= often[what]) {
             left -= often[what];
@@ -103,94 +129,28 @@ public final class ModelTest {
         return wild(reorder == 0 || below(4) > reorder ? 0 : below(Math.min(n, 3 * reorder * reorder)));
     }
 
-    private static int[] arguments(int what, Model m, int reorder) {
-        switch (NAMES[what]) {
+    private static int[] arguments(String what, Model m, int reorder) {
+        int side = below(2);
+        int last = m.sent.get(side).size() - 1;
+        int number = wild(below(2) == 0 ? last : between(-1, last + 1));
+        switch (what) {
             case "shape": return new int[] {between(59, 300), between(49, 400), between(49, 1000)};
             case "write": return new int[] {wild(below(8)), wild(below(6) == 0 ? between(1, 1000) : between(1, 120))};
             case "end":
             case "cut": return new int[] {wild(below(8))};
             case "read": return new int[] {wild(below(8)), wild(between(1, 150))};
             case "move": return new int[0];
-            case "send": return new int[] {wild(below(2))};
+            case "send": return new int[] {wild(side)};
             case "tick":
                 return new int[] {wild(below(5) == 0 ? between(1, 60) : below(40) == 0 ? 1000 : between(1, 4))};
+            case "told": return new int[] {between(-1, 8)};
+            case "stream": return new int[] {wild(below(8)), between(-1, 15)};
+            case "state": return new int[] {wild(below(8)), wild(below(2) == 0 ? below(1000) : below(120))};
+            case "side": return new int[] {wild(side), between(-1, 17)};
+            case "packet": return new int[] {wild(side), number, between(-1, 8)};
+            case "part": return new int[] {wild(side), number, between(-1, 4), between(-1, 12)};
+            case "net": return new int[] {place(m, reorder), between(-1, 2)};
             default: return new int[] {place(m, reorder)};
-        }
-    }
-
-    private static int callModel(Model m, String what, int[] n) {
-        switch (what) {
-            case "shape": return m.shape(n[0], n[1], n[2]);
-            case "write": return m.write(n[0], n[1]);
-            case "end": return m.end(n[0]);
-            case "cut": return m.cut(n[0]);
-            case "read": return m.read(n[0], n[1]);
-            case "move": return m.move();
-            case "send": return m.send(n[0]);
-            case "come": return m.come(n[0]);
-            case "drop": return m.drop(n[0]);
-            case "twice": return m.twice(n[0]);
-            default: return m.tick(n[0]);
-        }
-    }
-
-    private static void lookAround(String run, StreamCarrier x, Model m, boolean streamsToo) {
-        for (int what = -1; what <= 8; what++) {
-            same(run, "told " + what, x.told(what), m.told(what));
-        }
-        for (int side = 0; side < 2; side++) {
-            for (int what = -1; what <= 17; what++) {
-                same(run, "side " + side + " " + what, x.side(side, what), m.side(side, what));
-            }
-            lookAtPacket(run, x, m, side, x.side(side, 0) - 1);
-            lookAtPacket(run, x, m, side, below(1 + Math.max(0, x.side(side, 0))));
-        }
-        int i = below(1 + m.net.size());
-        same(run, "net " + i, x.net(i, 1), m.net(i, 1));
-        for (int s = 0; s < 8; s++) {
-            same(run, "stream " + s + " 13", x.stream(s, 13), m.stream(s, 13));
-            if (streamsToo) {
-                lookAtStream(run, x, m, s);
-            }
-        }
-    }
-
-    private static void lookAtStream(String run, StreamCarrier x, Model m, int s) {
-        for (int what = -1; what <= 15; what++) {
-            same(run, "stream " + s + " " + what, x.stream(s, what), m.stream(s, what));
-        }
-    }
-
-    private static void lookAtPacket(String run, StreamCarrier x, Model m, int side, int number) {
-        for (int what = -1; what <= 8; what++) {
-            String call = "packet " + side + " " + number + " " + what;
-            same(run, call, x.packet(side, number, what), m.packet(side, number, what));
-        }
-        int parts = Math.max(0, x.packet(side, number, 3));
-        for (int k = -1; k <= parts; k++) {
-            for (int what = -1; what <= 12; what++) {
-                String call = "part " + side + " " + number + " " + k + " " + what;
-                same(run, call, x.part(side, number, k, what), m.part(side, number, k, what));
-            }
-        }
-    }
-
-    private static void lookEverywhere(String run, StreamCarrier x, Model m) {
-        for (int s = -1; s <= 8; s++) {
-            lookAtStream(run, x, m, s);
-            for (int i = -1; i <= 1000; i++) {
-                same(run, "state " + s + " " + i, x.state(s, i), m.state(s, i));
-            }
-        }
-        for (int side = -1; side <= 2; side++) {
-            for (int n = -1; n <= Math.max(0, x.side(side, 0)); n++) {
-                lookAtPacket(run, x, m, side, n);
-            }
-        }
-        for (int i = -1; i <= m.net.size(); i++) {
-            for (int what = -1; what <= 2; what++) {
-                same(run, "net " + i + " " + what, x.net(i, what), m.net(i, what));
-            }
         }
     }
 }

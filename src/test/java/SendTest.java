@@ -8,7 +8,6 @@ public final class SendTest {
     public static void main(String[] args) {
         refused();
         fullNet();
-        fullNumbers();
         parts();
         turns();
         bounds();
@@ -27,45 +26,10 @@ public final class SendTest {
     }
 
     private static void fullNet() {
-        Rows.run("8 and 11: 400 under way", "write 0 5 = 5; send 0 = 0; twice 0 x398 = " + numbers(2, 399),
+        Rows.run("8 and 11: 400 under way", "write 0 5 = 5; send 0 = 0; twice 0 x398 = " + Rows.numbers(2, 399),
             "write 0 5 = 10; send 0 = 1; told 1 = 400; twice 0 = -4; twice 399 = -4; twice 400 = -1",
             "send 0 = -4; send 1 = -4; send 2 = -1; write 0 5 = 15",
             "send 0 = -4; drop 0 = 399; send 0 = 2; told 1 = 400; net 399 1 = 2");
-    }
-
-    private static String numbers(int from, int to) {
-        StringBuilder text = new StringBuilder();
-        for (int n = from; n <= to; n++) {
-            text.append(n).append(' ');
-        }
-        return text.toString().trim();
-    }
-
-    /** 300 PACKETS in few calls: what is LOST goes AGAIN, and without ticks OPEN falls but once. */
-    private static void fullNumbers() {
-        StringBuilder rows = new StringBuilder("shape 60 1000 4000 = 1");
-        for (int s = 0; s < 8; s += 2) {
-            rows.append("; write ").append(s).append(" 1000 = 1000");
-        }
-        int told = 0;
-        int next = 0;
-        for (int many : new int[] {10, 20, 22}) {
-            rows.append("; send 0 x").append(many).append(" = ").append(numbers(next, next + many - 1));
-            rows.append("; come 0 x").append(many).append(" = 1; send 1 = ").append(told++).append("; come 0 = 1");
-            next += many;
-        }
-        while (next < 300) {
-            int many = Math.min(25, 300 - next);
-            rows.append("; send 0 x").append(many).append(" = ").append(numbers(next, next + many - 1));
-            next += many;
-            if (next < 300) {
-                // Of all under way the last is the one sent last: that alone comes.
-                rows.append("; come ").append(next - 1 - 52 - (told - 3)).append(" = 1; send 1 = ").append(told++);
-                rows.append("; come ").append(next - 52 - (told - 3)).append(" = 1");
-            }
-        }
-        rows.append("; side 0 0 = 300; send 0 = -4; packet 0 299 0 = 0; packet 0 300 0 = -1");
-        Rows.run("8 300 PACKETS of a SIDE", rows.toString());
     }
 
     private static void parts() {
@@ -121,12 +85,13 @@ public final class SendTest {
             "part 0 7 0 3 = 1; stream 0 5 = 0; send 0 = -5");
         Rows.run("8 up to the last byte there can be",
             "shape 1000 1000 4000 = 1; write 0 1000 = 1000; end 0 = 1; send 0 x2 = 0 1; part 0 0 0 3 = 982",
-            "part 0 1 0 3 = 10018; state 0 999 = 1; write 2 1 = 1; send 0 = 2; write 2 1 = 2; send 0 = 3; write 2 1 = 3",
-            "send 0 = 4; twice 0 = 6; twice 1 = 7; come 4 = 1; send 1 = 0; come 6 = 1; packet 0 0 6 = 1; packet 0 1 6 = 1",
-            "stream 0 5 = 1000; state 0 999 = 2; send 0 = 5; part 0 5 0 2 = 0; part 0 5 0 3 = 10982; send 0 = 6",
-            "part 0 6 0 2 = 982; part 0 6 0 3 = 18; stream 0 5 = 0; come 0 x6 = 1 1 1 1 0 0; stream 0 9 = 1000",
-            "stream 0 8 = 1000; read 0 1000 = 1000; stream 0 12 = 1; come 0 x2 = 1; send 1 = 1; part 1 1 1 2 = 2000",
-            "come 0 = 1; stream 0 6 = 2000; stream 0 4 = 1000; stream 0 13 = 982; state 0 999 = 7; state 0 0 = 7");
+            "part 0 1 0 3 = 10018; state 0 999 = 1; write 2 1 = 1; send 0 = 2; write 2 1 = 2; send 0 = 3",
+            "write 2 1 = 3; send 0 = 4; twice 0 = 6; twice 1 = 7; come 4 = 1; send 1 = 0; come 6 = 1; packet 0 0 6 = 1",
+            "packet 0 1 6 = 1; stream 0 5 = 1000; state 0 999 = 2; send 0 = 5; part 0 5 0 2 = 0; part 0 5 0 3 = 10982",
+            "send 0 = 6; part 0 6 0 2 = 982; part 0 6 0 3 = 18; stream 0 5 = 0; come 0 x6 = 1 1 1 1 0 0",
+            "stream 0 9 = 1000; stream 0 8 = 1000; read 0 1000 = 1000; stream 0 12 = 1; come 0 x2 = 1; send 1 = 1",
+            "part 1 1 1 2 = 2000; come 0 = 1; stream 0 6 = 2000; stream 0 4 = 1000; stream 0 13 = 982; state 0 999 = 7",
+            "state 0 0 = 7");
         Rows.run("8 a PACKET without BYTES leaves the turn",
             "shape 60 1000 4000 = 1; write 2 42 = 42; send 0 = 0; cut 0 = 1; send 0 = 1; write 2 42 = 84",
             "write 4 42 = 42; send 0 = 2; part 0 2 0 1 = 4; send 0 = 3; part 0 3 0 1 = 2");
@@ -163,7 +128,8 @@ public final class SendTest {
             "packet 0 2 6 = 1; packet 0 3 6 = 0; stream 0 5 = 58; side 0 1 = 38; side 0 2 = 339; send 0 = 6",
             "part 0 6 0 2 = 0; part 0 6 0 3 = 10042; send 0 = 7; part 0 7 0 2 = 84; part 0 7 0 3 = 16; send 0 = -5",
             "stream 0 13 = -6; come 0 = 1; stream 0 13 = 42; stream 0 9 = 84; come 0 = 1; stream 0 9 = 100",
-            "stream 0 13 = 42; stream 0 0 = 100; send 1 = 1; come 0 = 1; stream 0 7 = 1; stream 0 4 = 100; stream 0 5 = 0");
+            "stream 0 13 = 42; stream 0 0 = 100; send 1 = 1; come 0 = 1; stream 0 7 = 1; stream 0 4 = 100",
+            "stream 0 5 = 0");
     }
 
     private static void endSaid() {
@@ -180,7 +146,7 @@ public final class SendTest {
             "come 0 = 0; stream 0 13 = 42"));
     }
 
-    private static String[] with(String[] rows, String... more) {
+    static String[] with(String[] rows, String... more) {
         String[] all = Arrays.copyOf(rows, rows.length + more.length);
         System.arraycopy(more, 0, all, rows.length, more.length);
         return all;
@@ -188,12 +154,12 @@ public final class SendTest {
 
     private static void openAndShut() {
         Rows.run("8 FLIGHT and ROOM against OPEN", "shape 60 1000 4000 = 1; write 0 1000 = 1000",
-            "send 0 x9 = " + numbers(0, 8), "side 0 1 = 540; send 0 = 9; side 0 1 = 600; send 0 = -5",
+            "send 0 x9 = " + Rows.numbers(0, 8), "side 0 1 = 540; send 0 = 9; side 0 1 = 600; send 0 = -5",
             "write 1 5 = 5; send 1 = 0; come 10 = 1; cut 2 = 1; send 0 = 10; packet 0 10 3 = 1; part 0 10 0 0 = 1",
             "packet 0 10 4 = 0; side 0 1 = 600; send 0 = -5; tick 7 = 7; send 0 = -5; tick 1 = 8; side 0 9 = 1",
             "send 0 = 11; packet 0 11 3 = 2; part 0 11 0 0 = 5; part 0 11 1 0 = 4; side 0 9 = 0; side 0 1 = 660",
             "send 0 = -5");
-        Rows.run("8 one below is shut", "shape 60 1000 4000 = 1; write 0 379 = 379; send 0 x9 = " + numbers(0, 8),
+        Rows.run("8 one below is shut", "shape 60 1000 4000 = 1; write 0 379 = 379; send 0 x9 = " + Rows.numbers(0, 8),
             "send 0 = 9; packet 0 9 2 = 19; side 0 1 = 559; write 0 1 = 380; send 0 = -5");
     }
 
@@ -210,13 +176,13 @@ public final class SendTest {
             "shape 60 1000 4000 = 1; write 0 200 = 200; send 0 x3 = 0 1 2; come 2 = 1; side 1 11 = 2; come 0 = 1",
             "side 1 11 = 2; side 0 11 = -6");
         Rows.run("9 spans: four, the highest first", "shape 60 1000 4000 = 1; write 0 1000 = 1000",
-            "send 0 x10 = " + numbers(0, 9), "come 0 = 1; drop 0 = 8; come 0 = 1; drop 0 = 6; come 0 = 1; drop 0 = 4",
-            "come 0 = 1; drop 0 = 2; come 0 = 1; send 1 = 0; packet 1 0 2 = 28; packet 1 0 3 = 1; part 1 0 0 3 = 4",
-            "part 1 0 0 4 = 8; part 1 0 0 5 = 8; part 1 0 0 6 = 6; part 1 0 0 7 = 6; part 1 0 0 8 = 4",
-            "part 1 0 0 9 = 4; part 1 0 0 10 = 2; part 1 0 0 11 = 2; part 1 0 0 12 = -2; part 1 0 0 -1 = -2",
-            "come 1 = 1; packet 0 0 5 = 0; packet 0 0 6 = 1; packet 0 0 7 = 1; packet 0 2 5 = 1; packet 0 5 6 = 1",
-            "packet 0 7 6 = 0; side 0 1 = 120; side 0 2 = 420; side 0 3 = 420; side 0 10 = 8; stream 0 5 = 168",
-            "stream 0 4 = 168; send 0 = 10; part 0 10 0 2 = 0; part 0 10 0 3 = 42; stream 0 5 = 126");
+            "send 0 x10 = " + Rows.numbers(0, 9), "come 0 = 1; drop 0 = 8; come 0 = 1; drop 0 = 6; come 0 = 1",
+            "drop 0 = 4; come 0 = 1; drop 0 = 2; come 0 = 1; send 1 = 0; packet 1 0 2 = 28; packet 1 0 3 = 1",
+            "part 1 0 0 3 = 4; part 1 0 0 4 = 8; part 1 0 0 5 = 8; part 1 0 0 6 = 6; part 1 0 0 7 = 6",
+            "part 1 0 0 8 = 4; part 1 0 0 9 = 4; part 1 0 0 10 = 2; part 1 0 0 11 = 2; part 1 0 0 12 = -2",
+            "part 1 0 0 -1 = -2; come 1 = 1; packet 0 0 5 = 0; packet 0 0 6 = 1; packet 0 0 7 = 1; packet 0 2 5 = 1",
+            "packet 0 5 6 = 1; packet 0 7 6 = 0; side 0 1 = 120; side 0 2 = 420; side 0 3 = 420; side 0 10 = 8",
+            "stream 0 5 = 168; stream 0 4 = 168; send 0 = 10; part 0 10 0 2 = 0; part 0 10 0 3 = 42; stream 0 5 = 126");
     }
 
     private static void dropsAndDoubles() {
