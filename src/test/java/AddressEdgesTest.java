@@ -185,6 +185,10 @@ public final class AddressEdgesTest {
         Rows.run("3 ANSWER from another ADDRESS makes that the PATH, ahead of what it does", TRIED, "send 1 = 0",
             "come 0 = 1; move = 2; send 0 = 1; part 0 1 1 0 = 7; part 0 1 1 2 = 1; come 0 = 1; told 3 = 2; told 4 = 1",
             "told 5 = 25");
+        Rows.run("2 an ANSWER that is OWED does not keep PACKET 0 from being LOST",
+            "shape 60 1000 4000 = 1; write 0 42 = 42; send 0 = 0; move = 1; write 0 42 = 84; send 0 = 1; drop 0 = 1",
+            "tick 16 = 16; come 0 = 1; send 1 = 0; come 0 = 1; side 0 5 = 16; packet 0 0 6 = 0; tick 1 = 17",
+            "packet 0 0 6 = 0; tick 1 = 18; packet 0 0 6 = 1; send 0 = 2; part 0 2 1 0 = 7; part 0 2 1 2 = 1");
         Rows.run("2 ANSWER, LOST: OWED with its b", ASKED, "drop 0 = 0; write 0 1 = 43; send 0 = 2; drop 0 = 0",
             "write 0 1 = 44; send 0 = 3; drop 0 = 0; write 0 1 = 45; send 0 = 4; come 0 = 1; send 1 = 1; come 0 = 1",
             "packet 0 1 6 = 1; told 4 = 1; send 0 = 5; part 0 5 0 0 = 7; part 0 5 0 2 = 1; come 0 = 1; told 4 = 0");

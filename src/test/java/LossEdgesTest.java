@@ -54,6 +54,12 @@ public final class LossEdgesTest {
         Rows.run("2 bytes have arrived, no byte beside", SMALL + "write 0 126 = 126; send 0 x3 = 0 1 2; come 1 = 1",
             "send 1 = 0; come 2 = 1; stream 0 4 = 42; state 0 41 = 1; state 0 42 = 7; state 0 83 = 7; state 0 84 = 1",
             "stream 0 5 = 0");
+        Rows.run("2 bytes that went in two PACKETS, both TOLD of, have arrived once",
+            SMALL + "write 0 168 = 168; send 0 x4 = 0 1 2 3; come 3 = 1; send 1 = 0; come 3 = 1; packet 0 0 6 = 1",
+            "stream 0 4 = 42; stream 0 5 = 42; send 0 = 4; stream 0 5 = 0; come 0 = 1; send 1 = 1; come 3 = 1",
+            "packet 0 0 5 = 1; stream 0 4 = 84; stream 0 5 = 0; come 2 = 1; send 1 = 2; come 2 = 1; packet 0 4 5 = 1",
+            "stream 0 4 = 84; stream 0 5 = 42; packet 0 1 6 = 1; state 0 0 = 7; state 0 41 = 7; state 0 42 = 2",
+            "send 0 = 5; part 0 5 0 2 = 42; stream 0 5 = 0; stream 0 3 = 168");
         Rows.run("2 TOLD itself is no BYTES: nothing of it arrives",
             SMALL + "write 0 84 = 84; send 0 x2 = 0 1; drop 0 = 1; come 0 = 1; write 1 5 = 5; send 1 = 0",
             "part 1 0 0 0 = 1; part 1 0 0 3 = 1; part 1 0 1 0 = 4; come 0 = 1; send 0 = 2; part 0 2 0 0 = 1",
