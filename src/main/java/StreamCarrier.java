@@ -944,7 +944,7 @@ public final class StreamCarrier {
             for (int n = Math.max(0, teller.spans[2 * j]); n <= teller.spans[2 * j + 1]; n++) {
                 Packet p = of.packetAt(n);
                 if (p != null && !p.toldOf) {
-                    anyHeavy |= p.heavy;
+                    anyHeavy = anyHeavy || p.heavy;
                     settle(of, p);
                 }
             }
@@ -1015,7 +1015,7 @@ public final class StreamCarrier {
                     s.cutOwed = true;
                     break;
                 case ASK:
-                    of.askOwed |= tried && b == path;
+                    of.askOwed = of.askOwed || tried && b == path;
                     break;
                 case ANSWER:
                     of.answerOwed = b;

@@ -44,8 +44,10 @@ public final class ModelTest {
     }
 
     public static void main(String[] args) {
-        Watch.start();
         int perKind = args.length > 0 ? Integer.parseInt(args[0]) : RUNS_OF_KIND;
+        if (perKind <= RUNS_OF_KIND) {
+            Watch.start();
+        }
         int runs = 0;
         for (int kind = 0; kind < KINDS.length; kind++) {
             for (int i = 0; i < perKind && wrong == 0; i++) {
